@@ -101,6 +101,7 @@ public final class PeopleTest {
         hand(33, 10, 3, 10);
         hand(39, 10, 3, 10);
         hand(38, 0, 9, 0);
+        hand(39, 99, 1, 99);
         hand(60, 10, 3, 8);
         hand(62, 10, 3, 10);
         hand(69, 10, 3, 11);
@@ -202,7 +203,9 @@ public final class PeopleTest {
         x.soul(30, 7);
         x.change(2, 1, 1);
         x.change(1, 1, 1);
+        x.change(0, 2, 1);
         x.change(3, 2, 1);
+        Due.due("who wear GLOVES", x.count(6), 9);
         Due.due("AT 7", x.street(7, 0), 13);
         Due.due("FREE AT 7", x.street(7, 1), 4);
         Due.due("AT 2", x.street(2, 0), 2);

@@ -7,6 +7,7 @@ public final class SheetsTest {
         moveWrong();
         frees();
         judge();
+        eight();
         Due.end();
     }
 
@@ -161,6 +162,21 @@ public final class SheetsTest {
         Due.due("missing", x.frees(3), Due.NONE);
     }
 
+    private static void eight() {
+        ImmunityCatching x = five();
+        for (int i = 5; i < 8; i++) {
+            x.soul(0, i);
+        }
+        int[] numbers = new int[40];
+        for (int i = 0; i < 40; i++) {
+            numbers[i] = i;
+        }
+        row(x, 1, numbers);
+        Due.due("a row of 40 for eight", x.frees(1), 8);
+        Due.due("FREE of the last", x.ofSoul(7, 3), 7);
+        Due.due("too many", x.judge(1), 8);
+    }
+
     private static void judge() {
         ImmunityCatching x = five();
         row(x, 1, 0, 1, 2, 3, 4);
@@ -175,6 +191,8 @@ public final class SheetsTest {
         Due.due("one is too many", x.judge(1), 5);
         row(x, 1, 0, 9);
         Due.due("1 isn't", x.judge(1), 1);
+        row(x, 1, 1, 1, 7, 3, 4);
+        Due.due("0 isn't", x.judge(1), 0);
         row(x, 1);
         Due.due("all lack", x.judge(1), 0);
         Due.due("SHEET 4", x.judge(4), Due.BEYOND);

@@ -178,6 +178,11 @@ public final class TextsTest {
         value("!(1=2)*7", 0, 0, 0, 7);
         value("0007", 0, 0, 0, 7);
         value("s-m*f", 2, 3, 14, 8);
+        value("!f" + "-0".repeat(23) + "+7", 0, 0, 0, 8);
+        value("!f" + "-0".repeat(23) + "+7", 1, 0, 0, 7);
+        value("1" + "|0".repeat(24), 0, 0, 0, 1);
+        value("1" + "&1".repeat(24), 0, 0, 0, 1);
+        value("3" + "*1".repeat(24), 0, 0, 0, 3);
     }
 
     private static void held() {

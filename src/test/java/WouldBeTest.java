@@ -14,6 +14,7 @@ public final class WouldBeTest {
         touch();
         done();
         odds();
+        fullHouse();
         onlyThought();
         beyond();
         Due.end();
@@ -279,6 +280,52 @@ public final class WouldBeTest {
         Due.due("who is FREE now", x.odds(0, 0, 1), 1);
         Due.due("behind 60", x.odds(0, 60, 0), 0);
         Due.due("LOSS stays", x.count(2), 4);
+    }
+
+    /** Eight, each AT a STREET of one's own, FREE for 10, 11, .. HOURS; the last is a THIEF who goes 1 round the ring. */
+    private static void fullHouse() {
+        ImmunityCatching x = with(0, 0, 0, 1, 0, 2, 0, 3, 0, 4, 0, 5, 0, 6, 0, 7);
+        x.sheet(0, 8, 9);
+        for (int i = 0; i < 8; i++) {
+            x.change(i, 1, 10 + i);
+            x.put(0, i, i == 7 ? 15 : 0);
+        }
+        x.put(0, 8, 1);
+        Due.due("last", x.last(60, 0), 7);
+        Due.due("last, for", x.last(60, 1), 16);
+        x.become(7, 31);
+        Due.due("FREE of the last behind 2", x.then(2, 7, 0), 13);
+        Due.due("AT of the last behind 2", x.then(2, 7, 1), 1);
+        Due.due("DEEDS of the last behind 2", x.then(2, 7, 2), 2);
+        Due.due("last: 0, who has 15 of the THIEF in the second STEP, as 6 has", x.last(60, 0), 0);
+        Due.due("last, for", x.last(60, 1), 15);
+        Due.due("reaches", x.reaches(7), 0);
+        Due.due("gloves: 7 stays, or goes and nobody is there", x.gloves(7, 1), 0);
+        Due.due("gloves: one who lives there", x.gloves(6, 1), Due.NONE);
+        Due.due("from the last alone", x.from(0, 0), 128);
+        Due.due("from one", x.from(0, 1), 1);
+        Due.due("stand", x.stand(0, 1, 0), 7);
+        Due.due("stand, HOURS: what a THIEF hands on of 17", x.stand(0, 1, 1), 16);
+        Due.due("crush", x.crush(1, 0), 0);
+        Due.due("crush, how many", x.crush(1, 1), 2);
+        Due.due("touch", x.touch(0, 1, 0), 7);
+        Due.due("touch, HOURS", x.touch(0, 1, 1), 16);
+        Due.due("dies: the THIEF has 15, 13, .. 0, hands what he has on the way", x.dies(), 16);
+        Due.due("done by 1", x.done(1), 8);
+        Due.due("odds: of 17 at least 1 is left behind 8", x.odds(7, 8, 0), 1);
+        Due.due("odds", x.odds(7, 8, 1), 1);
+        x.restore();
+        x.image();
+        x.change(7, 0, 3);
+        x.change(7, 2, 1);
+        x.restore();
+        Due.due("the last is AT 7 again", x.street(7, 0), 128);
+        Due.due("without GLOVES", x.count(6), 0);
+        Due.due("one STEP", x.steps(1), 9 + 10 + 11 + 12 + 13 + 14 + 15 + 15);
+        x.change(3, 1, 99);
+        Due.due("touch by 3", x.touch(4, 1, 0), 3);
+        x.change(0, 1, 99);
+        Due.due("touch by 0", x.touch(4, 1, 0), 0);
     }
 
     private static void onlyThought() {
