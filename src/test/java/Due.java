@@ -1,6 +1,6 @@
 import java.nio.charset.StandardCharsets;
 
-/** What the tests share: counting answers that are not as due, and feeding a TEXT to THE TAPE. */
+/** What the tests share: counting answers that are not as due, objects with PEOPLE, and feeding a TEXT to THE TAPE. */
 final class Due {
     static final int LOW = -1000000000;
     static final int BEYOND = LOW - 1;
@@ -27,6 +27,15 @@ final class Due {
 
     static void due(String what, boolean is) {
         due(what, is ? 1 : 0, 1);
+    }
+
+    /** A new object with PEOPLE: km and STREET of each. */
+    static ImmunityCatching with(int... kmAndStreet) {
+        ImmunityCatching x = new ImmunityCatching();
+        for (int i = 0; i < kmAndStreet.length; i += 2) {
+            x.soul(kmAndStreet[i], kmAndStreet[i + 1]);
+        }
+        return x;
     }
 
     static void feed(ImmunityCatching x, String text) {

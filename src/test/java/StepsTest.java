@@ -17,14 +17,6 @@ public final class StepsTest {
         Due.end();
     }
 
-    private static ImmunityCatching with(int... kmAndStreet) {
-        ImmunityCatching x = new ImmunityCatching();
-        for (int i = 0; i < kmAndStreet.length; i += 2) {
-            x.soul(kmAndStreet[i], kmAndStreet[i + 1]);
-        }
-        return x;
-    }
-
     private static void frees(ImmunityCatching x, int... want) {
         for (int i = 0; i < want.length; i++) {
             Due.due("FREE of " + i, x.ofSoul(i, 3), want[i]);
@@ -32,7 +24,7 @@ public final class StepsTest {
     }
 
     private static void oneStep() {
-        ImmunityCatching x = with(14, 0, 0, 0, 25, 0, 0, 1);
+        ImmunityCatching x = Due.with(14, 0, 0, 0, 25, 0, 0, 1);
         Due.due("13, 12, 11 and 0", x.steps(1), 36);
         frees(x, 13, 12, 11, 0);
         Due.due("STEP", x.count(1), 1);
@@ -44,15 +36,15 @@ public final class StepsTest {
     }
 
     private static void allAtOnce() {
-        ImmunityCatching x = with(68, 0, 68, 0);
+        ImmunityCatching x = Due.with(68, 0, 68, 0);
         x.change(0, 1, 10);
         x.change(1, 1, 10);
         Due.due("each hands 11, none 12", x.steps(1), 22);
         Due.due("each hands 12", x.steps(1), 24);
-        x = with(68, 0);
+        x = Due.with(68, 0);
         x.change(0, 1, 10);
         Due.due("nobody hands oneself", x.steps(1), 10);
-        x = with(0, 0, 0, 0, 0, 0);
+        x = Due.with(0, 0, 0, 0, 0, 0);
         x.change(0, 1, 50);
         x.change(1, 1, 20);
         x.loss(5);
@@ -61,7 +53,7 @@ public final class StepsTest {
     }
 
     private static void deeds() {
-        ImmunityCatching x = with(0, 0, 0, 1, 0, 2);
+        ImmunityCatching x = Due.with(0, 0, 0, 1, 0, 2);
         x.change(0, 1, 6);
         x.change(1, 1, 5);
         x.steps(1);
@@ -75,12 +67,12 @@ public final class StepsTest {
         Due.due("FREE for 1 does it still", x.ofSoul(1, 5), 9);
         Due.due("and is free no more", x.ofSoul(1, 3), 0);
         Due.due("who is not FREE does none", x.ofSoul(2, 5), 0);
-        x = with(32, 7);
+        x = Due.with(32, 7);
         Due.due("TEXT", Due.text(x, 1, "s+m-f"), 1);
         x.change(0, 1, 5);
         x.steps(1);
         Due.due("by FREE, m and STREET as they are then", x.ofSoul(0, 5), 4);
-        x = with(10, 0, 0, 0);
+        x = Due.with(10, 0, 0, 0);
         Due.due("TEXT", Due.text(x, 1, "f"), 1);
         x.change(1, 1, 1);
         x.steps(1);
@@ -88,7 +80,7 @@ public final class StepsTest {
     }
 
     private static void runsOut() {
-        ImmunityCatching x = with(0, 0, 20, 1, 50, 2, 30, 3, 31, 4, 60, 5);
+        ImmunityCatching x = Due.with(0, 0, 20, 1, 50, 2, 30, 3, 31, 4, 60, 5);
         for (int i = 0; i < 6; i++) {
             x.change(i, 1, 10);
         }
@@ -102,7 +94,7 @@ public final class StepsTest {
     }
 
     private static void walks() {
-        ImmunityCatching x = with(33, 0, 69, 6, 43, 0, 53, 0, 13, 0, 23, 0, 3, 0, 30, 5);
+        ImmunityCatching x = Due.with(33, 0, 69, 6, 43, 0, 53, 0, 13, 0, 23, 0, 3, 0, 30, 5);
         x.steps(1);
         int[] at = {3, 7, 0, 0, 0, 0, 0, 5};
         for (int i = 0; i < at.length; i++) {
@@ -115,7 +107,7 @@ public final class StepsTest {
     }
 
     private static void glovesOn() {
-        ImmunityCatching x = with(15, 0, 0, 0, 0, 0);
+        ImmunityCatching x = Due.with(15, 0, 0, 0, 0, 0);
         x.change(0, 2, 1);
         x.change(1, 1, 5);
         x.steps(1);
@@ -127,7 +119,7 @@ public final class StepsTest {
     }
 
     private static void meetsByText() {
-        ImmunityCatching x = with(10, 0, 0, 0, 10, 1, 0, 1);
+        ImmunityCatching x = Due.with(10, 0, 0, 0, 10, 1, 0, 1);
         Due.due("TEXT", Due.text(x, 0, "s=1&h=1"), 1);
         x.steps(1);
         frees(x, 9, 0, 9, 0);
@@ -138,7 +130,7 @@ public final class StepsTest {
         frees(x, 9, 0, 9, 0);
         x.steps(1);
         frees(x, 9, 0, 9, 8);
-        x = with(10, 0, 0, 0, 0, 0);
+        x = Due.with(10, 0, 0, 0, 0, 0);
         Due.due("TEXT", Due.text(x, 0, "n=3"), 1);
         x.change(2, 2, 1);
         x.steps(1);
@@ -146,7 +138,7 @@ public final class StepsTest {
     }
 
     private static void nuncio() {
-        ImmunityCatching x = with(42, 0);
+        ImmunityCatching x = Due.with(42, 0);
         Due.due("at STEP 0", x.steps(1), 31);
         Due.due("31 runs out", x.steps(6), 25);
         Due.due("at STEP 7", x.steps(1), 31);
@@ -155,8 +147,8 @@ public final class StepsTest {
     }
 
     private static void severalSteps() {
-        ImmunityCatching x = with(14, 0, 30, 0, 61, 7, 25, 1, 50, 0);
-        ImmunityCatching y = with(14, 0, 30, 0, 61, 7, 25, 1, 50, 0);
+        ImmunityCatching x = Due.with(14, 0, 30, 0, 61, 7, 25, 1, 50, 0);
+        ImmunityCatching y = Due.with(14, 0, 30, 0, 61, 7, 25, 1, 50, 0);
         int sum = 0;
         for (int i = 0; i < 60; i++) {
             sum = y.steps(1);
@@ -170,7 +162,7 @@ public final class StepsTest {
     }
 
     private static void wrongSteps() {
-        ImmunityCatching x = with(14, 0);
+        ImmunityCatching x = Due.with(14, 0);
         Due.due("steps(0)", x.steps(0), Due.BEYOND);
         Due.due("steps(61)", x.steps(61), Due.BEYOND);
         Due.due("steps(-1)", x.steps(-1), Due.BEYOND);
@@ -183,7 +175,7 @@ public final class StepsTest {
     }
 
     private static void loose() {
-        ImmunityCatching x = with(0, 5, 0, 5, 0, 5, 0, 5, 0, 5, 0, 5, 0, 5);
+        ImmunityCatching x = Due.with(0, 5, 0, 5, 0, 5, 0, 5, 0, 5, 0, 5, 0, 5);
         x.change(3, 2, 1);
         Due.due("loose(1)", x.loose(1), 0);
         // z goes 1103527590, 2524885223, 662824084, 3295386429, 4182499122, 2516284547, 3655513600; without its
@@ -198,7 +190,7 @@ public final class StepsTest {
     }
 
     private static void looseFarOn() {
-        ImmunityCatching x = with(0, 0, 0, 0, 31, 0);
+        ImmunityCatching x = Due.with(0, 0, 0, 0, 31, 0);
         x.change(2, 2, 1);
         x.seed(-77);
         long z = -77;
@@ -216,18 +208,18 @@ public final class StepsTest {
         }
         Due.due("z", x.count(10), (int) z);
         Due.due("STEP", x.count(1), 40);
-        x = with(0, 4, 10, 0);
+        x = Due.with(0, 4, 10, 0);
         x.loose(1);
         Due.due("1 goes to 4", x.ofSoul(1, 2), 4);
         Due.due("ahead of the STEP, so that they MEET", x.ofSoul(0, 3), 8);
-        x = with(0, 0, 10, 0);
+        x = Due.with(0, 0, 10, 0);
         x.loose(1);
         Due.due("1 goes away from 0, to 4", x.ofSoul(1, 2), 4);
         Due.due("so that they don't MEET", x.ofSoul(0, 3), 0);
     }
 
     private static void lastStep() {
-        ImmunityCatching x = with(14, 0, 31, 0);
+        ImmunityCatching x = Due.with(14, 0, 31, 0);
         for (int i = 0; i < 166; i++) {
             x.steps(60);
         }
@@ -245,7 +237,7 @@ public final class StepsTest {
         Due.due("told", x.told(3), 5);
         Due.due("a thought goes beyond", x.then(60, 0, 0), 13);
         Due.due("STEP", x.count(1), 9999);
-        x = with(14, 0);
+        x = Due.with(14, 0);
         for (int i = 0; i < 166; i++) {
             x.steps(60);
         }

@@ -20,16 +20,8 @@ public final class WouldBeTest {
         Due.end();
     }
 
-    private static ImmunityCatching with(int... kmAndStreet) {
-        ImmunityCatching x = new ImmunityCatching();
-        for (int i = 0; i < kmAndStreet.length; i += 2) {
-            x.soul(kmAndStreet[i], kmAndStreet[i + 1]);
-        }
-        return x;
-    }
-
     private static void then() {
-        ImmunityCatching x = with(31, 6, 10, 0);
+        ImmunityCatching x = Due.with(31, 6, 10, 0);
         x.change(0, 3, 5);
         Due.due("FREE behind 0", x.then(0, 0, 0), 0);
         Due.due("AT behind 0", x.then(0, 0, 1), 6);
@@ -47,7 +39,7 @@ public final class WouldBeTest {
     private static void last() {
         Due.due("nobody", new ImmunityCatching().last(1, 0), Due.NONE);
         Due.due("nobody, BEYOND first", new ImmunityCatching().last(0, 0), Due.BEYOND);
-        ImmunityCatching x = with(0, 0, 0, 1, 0, 2);
+        ImmunityCatching x = Due.with(0, 0, 0, 1, 0, 2);
         Due.due("none FREE: the least", x.last(60, 0), 0);
         Due.due("for none", x.last(60, 1), 0);
         x.change(0, 1, 3);
@@ -67,14 +59,14 @@ public final class WouldBeTest {
     }
 
     private static void reaches() {
-        ImmunityCatching x = with(10, 0, 31, 6, 0, 5);
+        ImmunityCatching x = Due.with(10, 0, 31, 6, 0, 5);
         Due.due("ENVOY", x.reaches(0), 1);
         Due.due("THIEF", x.reaches(1), 3);
         Due.due("SOUL", x.reaches(2), Due.NONE);
         x.change(2, 1, 1);
         Due.due("FREE now", x.reaches(2), 0);
         // Two CHILDREN who stay (8 round the ring) have 1, 2, 3 more, once a day; a BEGGAR keeps 1 of 3.
-        x = with(68, 0, 68, 0, 20, 0);
+        x = Due.with(68, 0, 68, 0, 20, 0);
         Due.due("TEXT", Due.text(x, 0, "h=11"), 1);
         Due.due("CHILD", x.reaches(0), 12);
         Due.due("BEGGAR", x.reaches(2), 60);
@@ -83,7 +75,7 @@ public final class WouldBeTest {
     }
 
     private static void gloves() {
-        ImmunityCatching x = with(10, 0, 0, 0, 31, 0);
+        ImmunityCatching x = Due.with(10, 0, 0, 0, 31, 0);
         Due.due("n 0", x.gloves(0, 0), 0);
         Due.due("ENVOY there", x.gloves(0, 1), Due.NONE);
         Due.due("nobody comes", x.gloves(3, 2), 0);
@@ -95,7 +87,7 @@ public final class WouldBeTest {
         Due.due("THIEF, not both ENVOYS", x.gloves(1, 3), 4);
         Due.due("behind 2 one is there first", x.gloves(2, 1), 0);
         Due.due("behind 2", x.gloves(2, 2), 4);
-        x = with(31, 3);
+        x = Due.with(31, 3);
         x.change(0, 1, 9);
         Due.due("without GLOVES one goes away", x.gloves(3, 1), 0);
         Due.due("with GLOVES one doesn't come", x.gloves(4, 1), 1);
@@ -103,14 +95,14 @@ public final class WouldBeTest {
     }
 
     private static void glovesOfFew() {
-        ImmunityCatching x = with(31, 0, 31, 0, 10, 0, 0, 3, 10, 3);
+        ImmunityCatching x = Due.with(31, 0, 31, 0, 10, 0, 0, 3, 10, 3);
         Due.due("both THIEVES or the ENVOY", x.gloves(1, 1), 4);
         x.become(3, 39);
         x.change(3, 1, 30);
         Due.due("and one who comes from elsewhere", x.gloves(4, 1), 8);
-        x = with(10, 0, 10, 0, 31, 0, 31, 0);
+        x = Due.with(10, 0, 10, 0, 31, 0, 31, 0);
         Due.due("of {0, 1} and {2, 3} the least", x.gloves(1, 1), 3);
-        x = with(31, 0, 10, 0, 31, 0, 10, 0);
+        x = Due.with(31, 0, 10, 0, 31, 0, 10, 0);
         Due.due("of {0, 2} and {1, 3} the least", x.gloves(1, 1), 5);
     }
 
@@ -127,7 +119,7 @@ public final class WouldBeTest {
     }
 
     private static void from() {
-        ImmunityCatching x = with(0, 0, 0, 0, 0, 0);
+        ImmunityCatching x = Due.with(0, 0, 0, 0, 0, 0);
         for (int i = 0; i < 3; i++) {
             x.change(i, 1, 5);
         }
@@ -146,7 +138,7 @@ public final class WouldBeTest {
         row(x, 3, 8, 0, 0, 0, 0);
         froms(x, 3, 6);
         Due.due("FREE stays", x.ofSoul(0, 3), 5);
-        x = with(10, 0, 0, 3);
+        x = Due.with(10, 0, 0, 3);
         x.change(0, 1, 2);
         x.change(1, 1, 2);
         row(x, 0, 8, 9, 1, 1);
@@ -157,7 +149,7 @@ public final class WouldBeTest {
     }
 
     private static void fromWrong() {
-        ImmunityCatching x = with(0, 0, 0, 0);
+        ImmunityCatching x = Due.with(0, 0, 0, 0);
         froms(x, 0, Due.NONE);
         row(x, 0, 8, 0, 0);
         froms(x, 0, Due.NONE);
@@ -178,7 +170,7 @@ public final class WouldBeTest {
     }
 
     private static void stand() {
-        ImmunityCatching x = with(19, 5, 12, 3, 0, 0);
+        ImmunityCatching x = Due.with(19, 5, 12, 3, 0, 0);
         Due.due("the STREET", x.stand(2, 1, 0), 5);
         Due.due("HOURS", x.stand(2, 1, 1), 17);
         Due.due("now", x.stand(2, 0, 0), 0);
@@ -190,13 +182,13 @@ public final class WouldBeTest {
         Due.due("with GLOVES all are alike", x.stand(2, 3, 0), 0);
         Due.due("HOURS", x.stand(2, 3, 1), 2);
         Due.due("AT stays", x.ofSoul(2, 2), 0);
-        x = with(38, 6, 18, 1);
+        x = Due.with(38, 6, 18, 1);
         x.become(0, 31);
         Due.due("a THIEF who comes by behind 19", x.stand(0, 20, 0), 6);
     }
 
     private static void crush() {
-        ImmunityCatching x = with(0, 1, 0, 1, 0, 3, 0, 3, 31, 2, 31, 2);
+        ImmunityCatching x = Due.with(0, 1, 0, 1, 0, 3, 0, 3, 31, 2, 31, 2);
         Due.due("behind 0", x.crush(0, 0), 1);
         Due.due("how many", x.crush(0, 1), 2);
         Due.due("behind 1", x.crush(1, 0), 3);
@@ -208,12 +200,12 @@ public final class WouldBeTest {
         Due.due("behind 57", x.crush(57, 0), 3);
         Due.due("nobody", new ImmunityCatching().crush(60, 0), 0);
         Due.due("how many", new ImmunityCatching().crush(60, 1), 0);
-        Due.due("at 7", with(0, 7).crush(60, 0), 7);
+        Due.due("at 7", Due.with(0, 7).crush(60, 0), 7);
     }
 
     private static void dies() {
         Due.due("nobody", new ImmunityCatching().dies(), 0);
-        ImmunityCatching x = with(0, 0);
+        ImmunityCatching x = Due.with(0, 0);
         Due.due("none", x.dies(), 0);
         x.change(0, 1, 60);
         Due.due("60", x.dies(), 60);
@@ -229,7 +221,7 @@ public final class WouldBeTest {
     }
 
     private static void touch() {
-        ImmunityCatching x = with(0, 0, 12, 3, 19, 5, 19, 6);
+        ImmunityCatching x = Due.with(0, 0, 12, 3, 19, 5, 19, 6);
         Due.due("who", x.touch(0, 1, 0), 2);
         Due.due("HOURS", x.touch(0, 1, 1), 17);
         Due.due("now, nobody", x.touch(0, 0, 0), -1);
@@ -242,9 +234,9 @@ public final class WouldBeTest {
         Due.due("HOURS", x.touch(0, 1, 1), 17);
         Due.due("ENVOY needs nobody", x.touch(2, 1, 0), -1);
         Due.due("HOURS", x.touch(2, 1, 1), 18);
-        Due.due("alone", with(0, 0).touch(0, 20, 0), -1);
-        Due.due("HOURS", with(0, 0).touch(0, 20, 1), 0);
-        x = with(0, 0, 10, 0, 19, 1);
+        Due.due("alone", Due.with(0, 0).touch(0, 20, 0), -1);
+        Due.due("HOURS", Due.with(0, 0).touch(0, 20, 1), 0);
+        x = Due.with(0, 0, 10, 0, 19, 1);
         Due.due("TEXT", Due.text(x, 0, "n=2"), 1);
         Due.due("one more is worse", x.touch(0, 1, 0), -1);
         Due.due("HOURS", x.touch(0, 1, 1), 8);
@@ -252,7 +244,7 @@ public final class WouldBeTest {
     }
 
     private static void done() {
-        ImmunityCatching x = with(0, 0, 0, 1);
+        ImmunityCatching x = Due.with(0, 0, 0, 1);
         x.change(0, 1, 8);
         x.change(0, 3, 100);
         Due.due("by 0", x.done(0), 0);
@@ -266,7 +258,7 @@ public final class WouldBeTest {
     }
 
     private static void odds() {
-        ImmunityCatching x = with(0, 0, 0, 0);
+        ImmunityCatching x = Due.with(0, 0, 0, 0);
         int[][] terms = {{0, 1}, {1, 9}, {2, 9}, {1, 3}, {4, 9}, {5, 9}, {2, 3}, {7, 9}, {8, 9}, {1, 1}};
         x.loss(4);
         for (int i = 0; i < 10; i++) {
@@ -284,7 +276,7 @@ public final class WouldBeTest {
 
     /** Eight, each AT a STREET of one's own, FREE for 10, 11, .. HOURS; the last is a THIEF who goes 1 round the ring. */
     private static void fullHouse() {
-        ImmunityCatching x = with(0, 0, 0, 1, 0, 2, 0, 3, 0, 4, 0, 5, 0, 6, 0, 7);
+        ImmunityCatching x = Due.with(0, 0, 0, 1, 0, 2, 0, 3, 0, 4, 0, 5, 0, 6, 0, 7);
         x.sheet(0, 8, 9);
         for (int i = 0; i < 8; i++) {
             x.change(i, 1, 10 + i);
@@ -329,7 +321,7 @@ public final class WouldBeTest {
     }
 
     private static void onlyThought() {
-        ImmunityCatching x = with(14, 0, 31, 0, 62, 1, 48, 2);
+        ImmunityCatching x = Due.with(14, 0, 31, 0, 62, 1, 48, 2);
         x.steps(3);
         x.sheet(0, 8, 5);
         x.then(60, 0, 0);
@@ -343,7 +335,7 @@ public final class WouldBeTest {
         x.touch(1, 20, 0);
         x.done(60);
         x.odds(1, 60, 0);
-        ImmunityCatching y = with(14, 0, 31, 0, 62, 1, 48, 2);
+        ImmunityCatching y = Due.with(14, 0, 31, 0, 62, 1, 48, 2);
         y.steps(3);
         for (int what = 0; what <= 10; what++) {
             Due.due("count(" + what + ")", x.count(what), y.count(what));
@@ -356,7 +348,7 @@ public final class WouldBeTest {
     }
 
     private static void beyond() {
-        ImmunityCatching x = with(0, 0);
+        ImmunityCatching x = Due.with(0, 0);
         for (int bad : new int[] {-1, Due.MIN, 61, Due.MAX}) {
             Due.due("then, n " + bad, x.then(bad, 0, 0), Due.BEYOND);
             Due.due("last, n " + bad, x.last(bad, 0), Due.BEYOND);
