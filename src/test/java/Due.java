@@ -13,15 +13,25 @@ final class Due {
 
     private static int asked = 0;
     private static int wrong = 0;
+    private static String about = "";
 
     private Due() {
+    }
+
+    /** What all answers are about from here on: it is told ahead of those that are not as due. */
+    static void about(String what) {
+        about = what;
+    }
+
+    static int asked() {
+        return asked;
     }
 
     static void due(String what, long got, long want) {
         asked++;
         if (got != want) {
             wrong++;
-            System.out.println(what + " answered " + got + ", due is " + want);
+            System.out.println(about + what + " answered " + got + ", due is " + want);
         }
     }
 
@@ -36,6 +46,21 @@ final class Due {
             x.soul(kmAndStreet[i], kmAndStreet[i + 1]);
         }
         return x;
+    }
+
+    /** STEP is 9999 then, as far as it goes. It takes 167 calls. */
+    static void goToLastStep(ImmunityCatching x) {
+        for (int i = 0; i < 166; i++) {
+            x.steps(60);
+        }
+        x.steps(39);
+    }
+
+    static void row(ImmunityCatching x, int sheet, int bits, int... numbers) {
+        x.sheet(sheet, bits, numbers.length);
+        for (int i = 0; i < numbers.length; i++) {
+            x.put(sheet, i, numbers[i]);
+        }
     }
 
     static void feed(ImmunityCatching x, String text) {

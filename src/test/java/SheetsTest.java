@@ -76,10 +76,7 @@ public final class SheetsTest {
     }
 
     private static void row(ImmunityCatching x, int sheet, int... numbers) {
-        x.sheet(sheet, 16, numbers.length);
-        for (int i = 0; i < numbers.length; i++) {
-            x.put(sheet, i, numbers[i]);
-        }
+        Due.row(x, sheet, 16, numbers);
     }
 
     private static void is(ImmunityCatching x, int sheet, int... numbers) {

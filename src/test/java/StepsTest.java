@@ -238,10 +238,8 @@ public final class StepsTest {
         Due.due("a thought goes beyond", x.then(60, 0, 0), 13);
         Due.due("STEP", x.count(1), 9999);
         x = Due.with(14, 0);
-        for (int i = 0; i < 166; i++) {
-            x.steps(60);
-        }
-        Due.due("steps(39), up to 9999", x.steps(39), 13);
+        Due.goToLastStep(x);
+        Due.due("FREE", x.count(3), 13);
         Due.due("STEP", x.count(1), 9999);
     }
 }

@@ -106,13 +106,6 @@ public final class WouldBeTest {
         Due.due("of {0, 2} and {1, 3} the least", x.gloves(1, 1), 5);
     }
 
-    private static void row(ImmunityCatching x, int sheet, int bits, int... numbers) {
-        x.sheet(sheet, bits, numbers.length);
-        for (int i = 0; i < numbers.length; i++) {
-            x.put(sheet, i, numbers[i]);
-        }
-    }
-
     private static void froms(ImmunityCatching x, int sheet, int set) {
         Due.due("from, the set", x.from(sheet, 0), set);
         Due.due("from, how many", x.from(sheet, 1), set < 0 ? set : Integer.bitCount(set));
@@ -123,45 +116,45 @@ public final class WouldBeTest {
         for (int i = 0; i < 3; i++) {
             x.change(i, 1, 5);
         }
-        row(x, 0, 8, 4, 3, 3, 1);
+        Due.row(x, 0, 8, 4, 3, 3, 1);
         froms(x, 0, 1);
-        row(x, 1, 16, 3, 4, 3, 1);
+        Due.row(x, 1, 16, 3, 4, 3, 1);
         froms(x, 1, 2);
-        row(x, 1, 16, 3, 3, 3, 1);
+        Due.row(x, 1, 16, 3, 3, 3, 1);
         froms(x, 1, 0);
-        row(x, 2, 32, 5, 0, 0, 0);
+        Due.row(x, 2, 32, 5, 0, 0, 0);
         froms(x, 2, 1);
-        row(x, 2, 32, 0, 0, 0, 20);
+        Due.row(x, 2, 32, 0, 0, 0, 20);
         froms(x, 2, 7);
         x.change(1, 1, 0);
         x.change(2, 1, 0);
-        row(x, 3, 8, 0, 0, 0, 0);
+        Due.row(x, 3, 8, 0, 0, 0, 0);
         froms(x, 3, 6);
         Due.due("FREE stays", x.ofSoul(0, 3), 5);
         x = Due.with(10, 0, 0, 3);
         x.change(0, 1, 2);
         x.change(1, 1, 2);
-        row(x, 0, 8, 9, 1, 1);
+        Due.row(x, 0, 8, 9, 1, 1);
         froms(x, 0, 2);
         x = new ImmunityCatching();
-        row(x, 0, 8, 7);
+        Due.row(x, 0, 8, 7);
         froms(x, 0, 0);
     }
 
     private static void fromWrong() {
         ImmunityCatching x = Due.with(0, 0, 0, 0);
         froms(x, 0, Due.NONE);
-        row(x, 0, 8, 0, 0);
+        Due.row(x, 0, 8, 0, 0);
         froms(x, 0, Due.NONE);
-        row(x, 0, 8, 0, 0, 0, 0);
+        Due.row(x, 0, 8, 0, 0, 0, 0);
         froms(x, 0, Due.NONE);
-        row(x, 0, 8, 0, 0, 21);
+        Due.row(x, 0, 8, 0, 0, 21);
         froms(x, 0, Due.NONE);
-        row(x, 0, 8, 0, 0, -1);
+        Due.row(x, 0, 8, 0, 0, -1);
         froms(x, 0, Due.NONE);
-        row(x, 0, 32, 0, 0, -1);
+        Due.row(x, 0, 32, 0, 0, -1);
         froms(x, 0, Due.NONE);
-        row(x, 0, 8, 0, 0, 20);
+        Due.row(x, 0, 8, 0, 0, 20);
         froms(x, 0, 3);
         froms(x, 4, Due.BEYOND);
         froms(x, -1, Due.BEYOND);
