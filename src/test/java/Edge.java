@@ -14,8 +14,8 @@ import java.util.regex.Pattern;
  */
 final class Edge {
     static final String TERMS = "Terms";
+    static final Path DOCUMENT = Path.of("../shared/DOC.md");
 
-    private static final Path DOCUMENT = Path.of("../shared/DOC.md");
     /** By these words a sentence names a boundary case. */
     private static final Pattern NAMED = Pattern.compile("\\b(BEYOND|NONE|STATE|FULL|KIND:)"
         + "|\\d+ (to|\\.\\.) \\d+|\\bat most\\b|\\bat first\\b|\\bat least\\b|\\bno more than\\b|\\bheld\\b|\\bbeyond\\b"

@@ -7,7 +7,6 @@ import java.lang.reflect.Modifier;
 import java.nio.file.Files;
 import java.nio.file.Path;
 import java.util.ArrayList;
-import java.util.HashSet;
 import java.util.List;
 import java.util.Set;
 import java.util.TreeSet;
@@ -28,9 +27,18 @@ public final class FaceTest {
 
     public static void main(String[] args) throws IOException {
         face();
+        faceOfDocument();
         insides();
         text();
         Due.end();
+    }
+
+    static Set<String> names() {
+        Set<String> names = new TreeSet<>();
+        for (String method : FACE) {
+            names.add(method.substring(0, method.indexOf('(')));
+        }
+        return names;
     }
 
     private static String signature(Method method) {
@@ -64,11 +72,28 @@ public final class FaceTest {
         }
     }
 
-    private static void insides() {
-        Set<String> names = new HashSet<>();
-        for (String method : FACE) {
-            names.add(method.substring(0, method.indexOf('(')));
+    /** Goes by the document, if it is there: whoever has the project alone can still run its tests. */
+    private static void faceOfDocument() throws IOException {
+        if (!Files.isRegularFile(Edge.DOCUMENT)) {
+            System.out.println("no " + Edge.DOCUMENT + " here: the face is not compared with it");
+            return;
         }
+        String document = Files.readString(Edge.DOCUMENT);
+        int from = document.indexOf("public final class ImmunityCatching {");
+        int to = document.indexOf("\n}", Math.max(0, from));
+        Due.due("the document has a face", from >= 0 && to > from);
+        Set<String> said = new TreeSet<>();
+        Matcher method = Pattern.compile("public int (\\w+)\\(([^)]*)\\);").matcher(document).region(Math.max(0, from),
+            Math.max(from, to));
+        while (method.find()) {
+            String types = method.group(2).replaceAll("(int|long) \\w+", "$1").replace(" ", "");
+            said.add(method.group(1) + "(" + types + ")");
+        }
+        Due.due("the face of the document: " + said, said.equals(new TreeSet<>(List.of(FACE))));
+    }
+
+    private static void insides() {
+        Set<String> names = names();
         List<Class<?>> all = new ArrayList<>(List.of(ImmunityCatching.class.getDeclaredClasses()));
         Due.due("at most twelve classes", all.size() < 12);
         for (Class<?> type : all) {

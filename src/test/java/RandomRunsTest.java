@@ -18,6 +18,9 @@ public final class RandomRunsTest {
         "f", "m", "f/4+m%2", "f>m|s=2", "f%(m-m)+9", "f-m*s", "!f", "f*f*f*f*f*f*f", "(f>9)*3+(s<4)*2", "5-f",
     };
     private static final String SIGNS = "shnfm019!()|&<=>+-*/%x ";
+    /** One run of so many begins at STEP 9990, since by chance alone none comes near the last STEP. */
+    private static final int LATE_RUNS = 5;
+    private static final int CALLS_TILL_LATE = 167;
 
     private record Call(String name, long[] given) {
     }
@@ -62,9 +65,11 @@ public final class RandomRunsTest {
             byName.put(method.getName(), method);
         }
         int people = random.nextInt(9);
+        int early = people + (run % LATE_RUNS == 0 ? CALLS_TILL_LATE : 0);
         for (int calls = 0; calls < 512; ) {
             List<Call> next = calls < people
                 ? List.of(call("soul", random.nextInt(70), random.nextInt(random.nextBoolean() ? 8 : 3)))
+                : calls < early ? List.of(call("steps", calls == people ? 30 : 60))
                 : random.nextInt(6) == 0 ? someCalls(x) : List.of(oneCall(methods));
             for (Call call : next) {
                 calls++;
